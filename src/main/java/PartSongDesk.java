@@ -831,7 +831,7 @@ public final class PartSongDesk {
         /** The ticks of the length that the two letters begin; 0 if they begin none. */
         private int ticksOf(char letter, char next) {
             int plain = plainTicksOf(letter);
-            return isDotted(letter, next) ? plain + plain / 2 : plain;
+            return next == '.' && plain > 1 ? plain + plain / 2 : plain;
         }
 
         private boolean isDotted(char letter, char next) {

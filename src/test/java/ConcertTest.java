@@ -13,6 +13,7 @@ public final class ConcertTest {
         concert();
         correctionsComeBack();
         noBars();
+        fortyCopies();
         Check.end("ConcertTest");
     }
 
@@ -219,5 +220,39 @@ public final class ConcertTest {
         desk.ask(0, 15, 0, 0);
         Check.due("nobody has a bar", () -> desk.plan(), 0);
         Check.due("concert of no bars", () -> desk.concert(0), 4);
+    }
+
+    /** As many copies as there may be, and as many singers as there are, with the last copy among those that are lent. */
+    private static void fortyCopies() {
+        PartSongDesk desk = new PartSongDesk();
+        for (int voice = 0; voice < 4; voice++) {
+            Check.write(desk, 0, voice, TEXTS[voice]);
+            for (int i = 0; i < 10; i++) {
+                desk.print(0, voice);
+            }
+        }
+        for (int singer = 0; singer < 12; singer++) {
+            int s = singer;
+            Check.due("lend", () -> desk.lend(39 - 3 * s, s), 0);
+        }
+        Check.due("a singer who has one", () -> desk.lend(38, 0), Check.STATE);
+        Check.due("no copy 40", () -> desk.lend(40, 0), Check.INDEX);
+        due(desk, "twelve have not learned it", PartSongDesk.UNLEARNED);
+        desk.room(3, 11);
+        desk.ask(0, 15, 0, 1);
+        Check.due("no room has twelve places", () -> desk.plan(), 0);
+        desk.room(3, 12);
+        Check.due("one has", () -> desk.plan(), 1);
+        Check.due("where it was", () -> desk.done(0), 3);
+        due(desk, "twelve have learned it", PartSongDesk.READY);
+        desk.pencil(39, 5, PartSongDesk.TO_PLACE, 0);
+        due(desk, "the last copy is unlike", PartSongDesk.UNLIKE);
+        desk.pencil(39, 5, PartSongDesk.TO_TICKS, 1);
+        due(desk, "the last copy is wrong", PartSongDesk.WRONG);
+        desk.pencil(39, 5, PartSongDesk.TO_TICKS, 100);
+        desk.pencil(39, 5, PartSongDesk.TO_PLACE, 100);
+        Check.due("all sing", () -> desk.concert(0), 12);
+        Check.due("the last copy came back", () -> desk.holder(39), PartSongDesk.NONE);
+        Check.due("with its corrections", () -> desk.lend(39, 0), 4);
     }
 }

@@ -54,6 +54,8 @@ public final class SungTest {
         Check.sung("@G#0M2/8 ^1e8s=8s|1s8s^8s1s|", "54 54 65 65 | 53 65 66 53");
         Check.sung("@G#0M2/8 ^1s@C7s7e|", "54 54 54 54");
         Check.sung("@Gb1M2/8 4s=4s4s_4s|^4s4s4e|", "58 59 59 58 | 60 60 60 60");
+        Check.sung("@G#0M1/8 ^19s19s|19s_19s|", "85 85 | 84 83");
+        Check.sung("@F#0M1/8 _-9s-9s|-9s^-9s|", "15 15 | 16 17");
         Check.sung("@G#0M1/8 [1s^1s|]2", "53 54 | 53 54");
         Check.sung("@G#0M1/4 ^1e[1e|1e]2 1e|", "54 54 54 54 | 53 53 53 53 | 53 53 53 53");
         Check.sung("@G#0M1/4 [1s|1s^1e]2 1s|", "r r r 53 | 53 54 54 54 | 53 54 54 54");
