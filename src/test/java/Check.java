@@ -8,6 +8,9 @@ final class Check {
 
     private static int calls = 0;
     private static int wrong = 0;
+    private static int sentences = 0;
+    /** The sentence of the document that is being tested, or none. */
+    private static String words = "";
 
     private Check() {
     }
@@ -26,8 +29,21 @@ final class Check {
         String got = answer(call);
         if (!got.equals(String.valueOf(want))) {
             wrong++;
-            System.out.println(what + " answered " + got + ", due is " + want);
+            System.out.println((words.isEmpty() ? "" : "\"" + words + "\": ") + what + " answered " + got + ", due is " + want);
         }
+    }
+
+    /** One sentence of the document, in its own words, and the calls that show whether it holds. */
+    static void sentence(String itsWords, Runnable test) {
+        int before = calls;
+        words = itsWords;
+        sentences++;
+        test.run();
+        if (calls == before) {
+            wrong++;
+            System.out.println("\"" + words + "\" is not tested");
+        }
+        words = "";
     }
 
     static void write(PartSongDesk desk, int piece, int voice, String text) {
@@ -78,7 +94,7 @@ final class Check {
     }
 
     static void end(String name) {
-        System.out.println(name + ": " + calls + " answers, " + wrong + " wrong");
+        System.out.println(name + ": " + (sentences > 0 ? sentences + " sentences, " : "") + calls + " answers, " + wrong + " wrong");
         if (wrong != 0 || calls == 0) {
             System.exit(1);
         }

@@ -140,7 +140,16 @@ public final class CopyTest {
             Check.due("pencil a kind " + bad, () -> desk.pencil(0, 0, bad, 0), Check.ARGUMENT);
             Check.due("pencil a kind " + bad, () -> desk.pencil(0, 0, bad, 100), Check.ARGUMENT);
         }
-        for (int value = -11; value <= 101; value++) {
+        Check.due("nothing was pencilled", () -> desk.pencil(0, 0, PartSongDesk.TO_CLEF, 0), 0);
+        Check.due("nothing but that comes back", () -> desk.back(0), 1);
+        // not all of them on one object, which is good for 512 calls
+        pencilValues(-11, 45);
+        pencilValues(46, 101);
+    }
+
+    private static void pencilValues(int least, int greatest) {
+        PartSongDesk desk = two(H + "^0q.~0e|rh|");
+        for (int value = least; value <= greatest; value++) {
             int v = value;
             boolean clef = v == 100 || v >= 0 && v <= 2;
             boolean place = v == 100 || v >= -9 && v <= 19;
@@ -196,6 +205,14 @@ public final class CopyTest {
         desk.pencil(0, 4, PartSongDesk.TO_PLACE, -9);
         desk.pencil(0, 3, PartSongDesk.TO_PLACE, 19);
         Check.due("TO_PLACE", () -> all(desk, 0), "84+ 36+ | r r | 54+ 54 | 54 54");
+        restsAndTicks();
+        tiesAndRests();
+    }
+
+    private static void restsAndTicks() {
+        PartSongDesk desk = two("@G#1M1/8 1s1s|re|1e~|1e|");
+        desk.pencil(0, 4, PartSongDesk.TO_PLACE, -9);
+        desk.pencil(0, 3, PartSongDesk.TO_PLACE, 19);
         desk.pencil(0, 8, PartSongDesk.TO_REST, 1);
         Check.due("TO_REST of one with a tie", () -> all(desk, 0), "84+ 36+ | r r | r r | 54+ 54");
         desk.pencil(0, 8, PartSongDesk.TO_REST, 0);
@@ -215,7 +232,6 @@ public final class CopyTest {
         desk.pencil(0, 4, PartSongDesk.TO_TICKS, 1);
         desk.pencil(0, 3, PartSongDesk.TO_TICKS, 1);
         Check.due("and right again", () -> all(desk, 0), "84+ 36+ | r r | 54+ 54 | 54 54");
-        tiesAndRests();
     }
 
     private static void tiesAndRests() {
