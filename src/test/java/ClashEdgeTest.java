@@ -60,6 +60,7 @@ public final class ClashEdgeTest {
             PartSongDesk desk = printed("@G#0M1/8 1e|1e|");
             due(desk, 0, 0, 0, 0);
             Check.write(desk, 2, 3, "@G#0M1/8 0e|");
+            Check.due("a part that is not printed, but RIGHT", () -> desk.bars(2, 3), 1);
             due(desk, 0, 0, 0, 0);
             desk.print(2, 3);
             due(desk, 1, 0, 1, 0);
@@ -110,6 +111,7 @@ public final class ClashEdgeTest {
             PartSongDesk two = printed("@G#0M1/8 0e|", "@G#0M1/4 1q|");
             due(two, 0, 1, 0, 0);
             dueIn(two, 1, 0);
+            due(printed("@G#0M1/4 1q|", "@G#0M1/8 0e|"), 0, 1, 0, 0);
             // the bar 1 is counted in full, for the one of unlike ticks has none
             PartSongDesk three = printed("@G#0M1/8 0e|0e|", "@G#0M1/8 1e|1e|", "@G#0M1/4 1q|");
             due(three, 1, 1, 1, 1);
@@ -140,6 +142,10 @@ public final class ClashEdgeTest {
             due(printed("@G#0M1/8 1e~|1e|", "@G#0M1/8 0e~|0e|"), 0, 0, 1, 0);
             due(printed("@G#0M1/8 1e~|1e|", "@G#0M1/8 0e|0e|"), 0, 0, 2, 0);
             due(printed("@G#0M1/8 1srs|", "@G#0M1/8 rs0s|"), 0, 0, 0, 0);
+            for (int pitch = 48; pitch < 60; pitch++) {
+                due(printed("", part(pitch), "@G#0M1/8 re|"), 0, 0, 0, 0);
+                due(printed("", "@G#0M1/8 re|", part(pitch)), 0, 0, 0, 0);
+            }
             due(printed("@G#0M1/8 1srs|", "@G#0M1/8 0e|"), 0, 0, 1, 0);
             due(printed("@G#0M1/8 1s|", "@G#0M1/8 0e|"), 0, 0, 1, 0);
             due(printed("@G#0M1/8 1s|", "@G#0M1/8 0s|"), 0, 0, 1, 0);

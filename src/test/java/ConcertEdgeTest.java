@@ -77,6 +77,10 @@ public final class ConcertEdgeTest {
                 due(desk, "it is SHORT", PartSongDesk.WRONG);
                 desk.back(4);
                 due(desk, "it lies in the library", PartSongDesk.READY);
+                desk.pencil(voice, 3, PartSongDesk.TO_TICKS, 16);
+                due(desk, "the first copy of a voice is LONG", PartSongDesk.WRONG);
+                desk.pencil(voice, 3, PartSongDesk.TO_TICKS, 2);
+                due(desk, "it is RIGHT", PartSongDesk.READY);
             }
         });
         Check.sentence("UNLIKE: two copies of one voice that are lent have not as many bars, or some bar that is not alike", () -> {
@@ -140,10 +144,14 @@ public final class ConcertEdgeTest {
                 desk.ask(0, 15 - (1 << voice), 0, 1);
                 desk.ask(0, 1 << voice, 0, 0);
                 desk.plan();
-                due(desk, "but for one bar of one voice", PartSongDesk.UNLEARNED);
+                due(desk, "but for the last bar of one voice", PartSongDesk.UNLEARNED);
                 desk.ask(0, 1 << voice, 1, 1);
                 desk.plan();
                 due(desk, "all", PartSongDesk.READY);
+                desk.pencil(voice, 3, PartSongDesk.TO_PLACE, 5);
+                due(desk, "the first bar was changed", PartSongDesk.UNLEARNED);
+                desk.pencil(voice, 3, PartSongDesk.TO_PLACE, 0);
+                due(desk, "it is as it was", PartSongDesk.READY);
                 desk.pencil(voice, 5, PartSongDesk.TO_PLACE, 5);
                 due(desk, "the copy was changed", PartSongDesk.UNLEARNED);
                 rehearse(desk, 1, 1);
@@ -160,6 +168,14 @@ public final class ConcertEdgeTest {
             due(forty, "but for the last bar", PartSongDesk.UNLEARNED);
             rehearse(forty, 39, 39);
             due(forty, "all forty", PartSongDesk.READY);
+            String late = "@G#0M4/4 0h0h|0h0h|";
+            PartSongDesk halves = lent(late, late, late, late);
+            rehearse(halves, 0, 1);
+            due(halves, "bars of sixteen ticks", PartSongDesk.READY);
+            for (int place = -1; place <= 1; place++) {
+                halves.pencil(2, 7, PartSongDesk.TO_PLACE, place);
+                due(halves, "the second half of a bar", place == 0 ? PartSongDesk.READY : PartSongDesk.UNLEARNED);
+            }
         });
         Check.sentence("A piece is judged by the first of these that is so", () -> {
             PartSongDesk desk = lent(TEXT, TEXT, TEXT + "0e|", TEXT);
@@ -175,7 +191,45 @@ public final class ConcertEdgeTest {
         });
     }
 
+    /** All pieces are judged alike, with as many copies as there may be, the last one among those that are lent. */
+    private static void allCopies(int piece) {
+        PartSongDesk desk = new PartSongDesk();
+        for (int voice = 0; voice < 4; voice++) {
+            Check.write(desk, piece, voice, TEXT);
+            for (int copy = 0; copy < 10; copy++) {
+                desk.print(piece, voice);
+            }
+        }
+        Check.due("no copy is lent", () -> desk.judge(piece), PartSongDesk.NO_COPY);
+        for (int singer = 0; singer < 12; singer++) {
+            desk.lend(39 - 3 * singer, singer);
+        }
+        Check.due("twelve copies are lent", () -> desk.judge(piece), PartSongDesk.UNLEARNED);
+        Check.due("another piece", () -> desk.judge((piece + 1) % 3), PartSongDesk.NO_COPY);
+        Check.due("another piece", () -> desk.judge((piece + 2) % 3), PartSongDesk.NO_COPY);
+        desk.room(1, 12);
+        desk.ask(piece, 15, 0, 1);
+        Check.due("one rehearsal", () -> desk.plan(), 1);
+        Check.due("in the room with twelve places", () -> desk.done(0), 1);
+        Check.due("all have learned it", () -> desk.judge(piece), PartSongDesk.READY);
+        desk.pencil(39, 5, PartSongDesk.TO_PLACE, 0);
+        Check.due("the last copy is unlike", () -> desk.judge(piece), PartSongDesk.UNLIKE);
+        desk.pencil(39, 5, PartSongDesk.TO_TICKS, 1);
+        Check.due("the last copy is SHORT", () -> desk.judge(piece), PartSongDesk.WRONG);
+        Check.due("no concert", () -> desk.concert(piece), Check.STATE);
+        desk.pencil(39, 5, PartSongDesk.TO_TICKS, PartSongDesk.AS_PRINTED);
+        desk.pencil(39, 5, PartSongDesk.TO_PLACE, PartSongDesk.AS_PRINTED);
+        Check.due("a concert", () -> desk.concert(piece), 12);
+        Check.due("the last copy came back", () -> desk.holder(39), PartSongDesk.NONE);
+        Check.due("with what was pencilled", () -> desk.lend(38, 0), 4);
+    }
+
     private static void concerts() {
+        Check.sentence("Judges a piece.", () -> {
+            for (int piece = 0; piece < 3; piece++) {
+                allCopies(piece);
+            }
+        });
         Check.sentence("Returns how many singers sing.", () -> {
             PartSongDesk four = ready();
             Check.due("four", () -> four.concert(0), 4);

@@ -321,6 +321,9 @@ public final class CopyEdgeTest {
             Check.due("as it came back", () -> desk.copyPitch(0, 0, 0), 53);
             Check.due("lend", () -> desk.lend(0, 5), 2);
             Check.due("as the library has it", () -> desk.copyPitch(0, 0, 0), 54);
+            desk.print(0, 0);
+            Check.due("lend a new one", () -> desk.lend(2, 6), 2);
+            Check.due("it has both as well", () -> desk.copyPitch(2, 0, 0), 54);
         });
         Check.sentence("When it comes back, the corrections that it has and the library has not come into the set of the library.", () -> {
             PartSongDesk desk = two("@G#0M1/8 0e|");
@@ -366,7 +369,7 @@ public final class CopyEdgeTest {
     }
 
     private static void lentAndBack() {
-        Check.sentence("There are the singers 0 to 11", () -> {
+        Check.sentence("the singers 0 to 11", () -> {
             PartSongDesk desk = Check.with(H);
             for (int singer = 0; singer < 12; singer++) {
                 int s = singer;
@@ -442,6 +445,13 @@ public final class CopyEdgeTest {
             desk.back(0);
             Check.due("a copy that came back", () -> desk.pencil(0, 3, PartSongDesk.TO_PLACE, 1), Check.STATE);
             Check.due("the number behind that", () -> desk.pencil(1, 3, PartSongDesk.TO_PLACE, 1), 4);
+            PartSongDesk all = two("@G#0M2/4 0h|rh|[@C(1:)(2:)]2");
+            kinds(all, PartSongDesk.TO_CLEF, 0, 8);
+            kinds(all, PartSongDesk.TO_PLACE, 3);
+            kinds(all, PartSongDesk.TO_SIGN, 3);
+            kinds(all, PartSongDesk.TO_TICKS, 3, 5);
+            kinds(all, PartSongDesk.TO_REST, 3);
+            Check.due("those that were pencilled", () -> all.back(1), 7);
         });
     }
 
@@ -508,6 +518,13 @@ public final class CopyEdgeTest {
             Check.due("all forty", () -> desk.differ(1, 0), 40);
             desk.pencil(1, 12, PartSongDesk.TO_PLACE, 4);
             Check.due("but the last four", () -> desk.differ(0, 1), 36);
+            PartSongDesk late = two("@G#0M4/4 0h0h|0h0h|");
+            late.pencil(0, 4, PartSongDesk.TO_PLACE, 9);
+            Check.due("in the second half of a bar", () -> late.differ(0, 1), 1);
+            Check.due("the other way round", () -> late.differ(1, 0), 1);
+            late.pencil(0, 7, PartSongDesk.TO_REST, 1);
+            Check.due("in that of both bars", () -> late.differ(0, 1), 2);
+            Check.due("the other way round", () -> late.differ(1, 0), 2);
             PartSongDesk none = two(H);
             Check.due("no bars", () -> none.differ(0, 1), 0);
         });

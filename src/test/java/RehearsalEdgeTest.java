@@ -73,7 +73,7 @@ public final class RehearsalEdgeTest {
             Check.due("one room has five", () -> desk.plan(), 1);
             Check.due("the room 3", () -> desk.done(1), 13);
         });
-        Check.sentence("There are the rooms 0 to 3.", () -> {
+        Check.sentence("and the rooms 0 to 3", () -> {
             PartSongDesk desk = lent(TEXT);
             for (int room = 0; room < 4; room++) {
                 due("the room " + room, place(desk, 0, 1 << room), room);
@@ -147,6 +147,10 @@ public final class RehearsalEdgeTest {
             Check.due("day", () -> desk.day(), 1);
             Check.due("plan", () -> desk.plan(), 1);
             Check.due("all are free again", () -> desk.done(16), 100);
+            for (int i = 1; i < 16; i++) {
+                due("the request " + i + " of the next day", place(desk, i / 2 % 2, 1 << i % 2 + 2 * (i / 8)), 100 + i / 8 * 20 + i / 4 % 2 * 10 + i % 4);
+            }
+            due("all sixteen are taken again", place(desk, 0, 1), PartSongDesk.NONE);
         });
         Check.sentence("has enough places", () -> {
             PartSongDesk desk = lent(TEXT);
@@ -216,6 +220,27 @@ public final class RehearsalEdgeTest {
             place(desk, 0, 1);
             Check.due("a rest", () -> desk.learned(0, 0, 0, 0), 1);
         });
+        Check.sentence("each of them learns each of these bars, as the copy has it", () -> {
+            for (int piece = 0; piece < 3; piece++) {
+                learnedByOne(5, piece);
+            }
+            learnedByOne(0, 2);
+            learnedByOne(11, 2);
+            PartSongDesk late = lent("@G#0M4/4 0h0h");
+            place(late, 0, 1);
+            place(late, 0, 1);
+            Check.due("alike in both halves of the bar", () -> late.learned(0, 0, 0, 0), 2);
+            late.pencil(0, 4, PartSongDesk.TO_PLACE, 9);
+            place(late, 0, 1);
+            Check.due("unlike in the second half", () -> late.learned(0, 0, 0, 0), 1);
+            late.pencil(0, 4, PartSongDesk.TO_PLACE, 5);
+            place(late, 0, 1);
+            Check.due("unlike once more", () -> late.learned(0, 0, 0, 0), 1);
+            late.day();
+            place(late, 0, 1);
+            Check.due("alike to that", () -> late.learned(0, 0, 0, 0), 2);
+            Check.due("but not to the library", () -> late.misled(0, 0, 0), 1);
+        });
         Check.sentence("one that is tied to does not begin", () -> {
             PartSongDesk desk = lent("@G#0M1/8 0e~|0e|");
             place(desk, 0, 1, 1, 1);
@@ -225,6 +250,28 @@ public final class RehearsalEdgeTest {
             place(desk, 0, 1, 1, 1);
             Check.due("and that once more", () -> desk.learned(0, 0, 0, 1), 2);
         });
+    }
+
+    /** One singer learns all of the last voice of a piece, and no one else anything. */
+    private static void learnedByOne(int singer, int piece) {
+        PartSongDesk desk = new PartSongDesk();
+        Check.write(desk, piece, 3, FORTY);
+        desk.print(piece, 3);
+        desk.lend(0, singer);
+        due("the rehearsal", place(desk, piece, 8, 0, 39), 0);
+        for (int part = 0; part < 12; part++) {
+            for (int other = 0; other < 12; other++) {
+                int p = part / 4;
+                int v = part % 4;
+                int s = other;
+                int want = s == singer && part == piece * 4 + 3 ? 1 : 0;
+                Check.due("the first bar", () -> desk.learned(s, p, v, 0), want);
+                Check.due("the last bar", () -> desk.learned(s, p, v, 39), want);
+                if (s == singer) {
+                    Check.due("misled", () -> desk.misled(s, p, v), 0);
+                }
+            }
+        }
     }
 
     private static void rooms() {
@@ -391,6 +438,20 @@ public final class RehearsalEdgeTest {
             Check.due("another singer", () -> desk.misled(1, 0, 1), 0);
             desk.back(0);
             Check.due("the library has them so now", () -> desk.misled(0, 0, 0), 0);
+            for (int piece = 0; piece < 3; piece++) {
+                int p = piece;
+                PartSongDesk last = new PartSongDesk();
+                Check.write(last, p, 3, TEXT);
+                last.print(p, 3);
+                last.lend(0, 11);
+                last.pencil(0, 3, PartSongDesk.TO_PLACE, 4);
+                place(last, p, 8, 0, 1);
+                for (int part = 0; part < 12; part++) {
+                    int q = part;
+                    Check.due("one bar of the last voice", () -> last.misled(11, q / 4, q % 4), q == 4 * p + 3 ? 1 : 0);
+                    Check.due("none by another singer", () -> last.misled(10, q / 4, q % 4), 0);
+                }
+            }
         });
         Check.sentence("Returns the bars; all that were learned, if the music of the part is not RIGHT.", () -> {
             PartSongDesk desk = lent(TEXT);

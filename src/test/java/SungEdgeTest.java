@@ -194,6 +194,14 @@ public final class SungEdgeTest {
             Check.due("no seconds", () -> desk.seconds(0, 0, 60), -1f);
             desk.strike(0, 0, 1);
             Check.due("bars of what is RIGHT again", () -> desk.bars(0, 0), 2);
+            // what was broken off within repeats leaves nothing for the next one
+            Check.write(desk, 1, 0, H + "[[[0w]2]2]2");
+            Check.due("LONG in the third repeat", () -> desk.error(1, 0), PartSongDesk.LONG);
+            Check.write(desk, 1, 1, H + "^0h~|[[[1h|]2]2]2");
+            Check.due("TIE in the third repeat", () -> desk.error(1, 1), PartSongDesk.TIE);
+            Check.write(desk, 1, 2, H + "[[[0h|]2]3]4");
+            Check.due("bars behind that", () -> desk.bars(1, 2), 24);
+            Check.due("the pitch behind that", () -> desk.pitch(1, 2, 0, 0), 52);
         });
     }
 

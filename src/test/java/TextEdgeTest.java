@@ -93,6 +93,17 @@ public final class TextEdgeTest {
             pitchOf("-00h", 52);
             pitchOf("-05h", 43);
             pitchOf("-5h", 43);
+            for (char c = '!'; c <= '~'; c++) {
+                boolean isDigit = c >= '0' && c <= '9';
+                // those of the list begin other tokens
+                if ("r|[)".indexOf(c) < 0) {
+                    behind("@G#0M4/4", c + "e", isDigit, 2);
+                }
+                boolean isLength = "whqes".indexOf(c) >= 0;
+                behind("@G#0M4/4", "0" + c + "e", isDigit || isLength, isDigit ? 3 : 2);
+                behind("@G#0M4/4", "-0" + c + "e", isDigit || isLength, isDigit ? 4 : 3);
+                behind("@G#0M4/4", "00" + c, isLength, 3);
+            }
             for (String none : new String[] {"h", "-h", "--5h", "005h", "-005h", "012h", "5-h", "^h"}) {
                 behind(H, none, false, 0);
             }
