@@ -70,6 +70,11 @@ public final class RefusedTest {
         desk.back(0);
         desk.lend(0, 0);
         desk.pencil(3, 3, PartSongDesk.TO_SIGN, 1);
+        // so that the copy 4 lies there without what the library has
+        desk.pencil(1, 3, PartSongDesk.TO_PLACE, 2);
+        desk.pencil(1, 5, PartSongDesk.TO_PLACE, 2);
+        desk.back(1);
+        desk.lend(1, 1);
         return desk;
     }
 
@@ -119,7 +124,7 @@ public final class RefusedTest {
         return desk;
     }
 
-    /** Forty requests, four of them done. */
+    /** Forty requests, four of them done, and another day. */
     private static PartSongDesk fortyRequests() {
         PartSongDesk desk = new PartSongDesk();
         Check.write(desk, 0, 0, "@G#0M1/8 0e|1e|");
@@ -129,6 +134,7 @@ public final class RefusedTest {
             desk.ask(0, 1, request % 2, 1);
         }
         desk.plan();
+        desk.day();
         return desk;
     }
 
@@ -347,6 +353,7 @@ public final class RefusedTest {
             refused("lend what is lent to no singer", RefusedTest::busy, Check.INDEX, d -> d.lend(0, bad));
         });
         refused("lend what is lent", RefusedTest::busy, Check.STATE, d -> d.lend(0, 5));
+        refused("lend what is lent and pencilled into", RefusedTest::busy, Check.STATE, d -> d.lend(3, 5));
         refused("lend what is lent to the singer who has it", RefusedTest::busy, Check.STATE, d -> d.lend(0, 0));
         refused("lend to a singer who has a copy of the part", RefusedTest::busy, Check.STATE, d -> d.lend(4, 1));
         refused("lend to a singer who has a copy of the piece", RefusedTest::busy, Check.STATE, d -> d.lend(4, 3));
@@ -517,7 +524,6 @@ public final class RefusedTest {
         }, 200);
         Check.due("what is planned of forty", () -> {
             PartSongDesk desk = fortyRequests();
-            desk.day();
             return desk.plan() + 100 * desk.done(7);
         }, 4 + 100 * 130);
     }
